@@ -402,21 +402,21 @@ public final class ArgumentMender {
         if (!canTry(claim, n, year)) {
             return NO_SUCH;
         }
-        return Integer.bitCount(trials.drag(cloth, now.rows[year], claim, n).ripped);
+        return Integer.bitCount(trials.tryPull(cloth, now.rows[year], claim, n).ripped);
     }
 
     public int would(int claim, int n, int year, int thread) {
         if (!canTry(claim, n, year) || !cloth.hasThread(thread)) {
             return NO_SUCH;
         }
-        return trials.drag(cloth, now.rows[year], claim, n).share[thread];
+        return trials.tryPull(cloth, now.rows[year], claim, n).share[thread];
     }
 
     public int lets(int claim, int n, int year) {
         if (!canTry(claim, n, year)) {
             return NO_SUCH;
         }
-        return trials.drag(cloth, now.rows[year], claim, n).lost;
+        return trials.tryPull(cloth, now.rows[year], claim, n).lost;
     }
 
     public int gate(int claim, int year) {
@@ -448,7 +448,7 @@ public final class ArgumentMender {
             return NO_SUCH;
         }
         for (int n = 1; n <= MOST_PULL; n++) {
-            if (trials.drag(cloth, now.rows[year], claim, n).lost > 0) {
+            if (trials.tryPull(cloth, now.rows[year], claim, n).lost > 0) {
                 return n;
             }
         }
@@ -686,8 +686,10 @@ public final class ArgumentMender {
         for (int pair = 0; pair < 4; pair++) {
             int x = pair & 1;
             int y = pair >> 1;
-            boolean firstStays = trials.gain(cloth, quarrel, other, x, y) >= trials.gain(cloth, quarrel, other, 1 - x, y);
-            boolean otherStays = trials.gain(cloth, other, quarrel, y, x) >= trials.gain(cloth, other, quarrel, 1 - y, x);
+            boolean firstStays = trials.gain(cloth, quarrel, other, x, y)
+                    >= trials.gain(cloth, quarrel, other, 1 - x, y);
+            boolean otherStays = trials.gain(cloth, other, quarrel, y, x)
+                    >= trials.gain(cloth, other, quarrel, 1 - y, x);
             if (firstStays && otherStays) {
                 bits |= 1 << pair;
             }
@@ -1107,7 +1109,13 @@ public final class ArgumentMender {
                 return false;
             }
             read.from[t] = taken;
-            if (!takeWord("to") || !takeEnd(read.from[t] - 1)) {
+            if (!takeWord("to")) {
+                return false;
+            }
+            if (tape.isAt("hem")) {
+                tape.next();
+                taken = HEM;
+            } else if (!takeNumber(0, read.from[t] - 1)) {
                 return false;
             }
             read.to[t] = taken;
@@ -1139,15 +1147,6 @@ public final class ArgumentMender {
             read.when[q] = taken;
             read.quarrels++;
             return true;
-        }
-
-        private boolean takeEnd(int high) {
-            if (tape.isAt("hem")) {
-                tape.next();
-                taken = HEM;
-                return true;
-            }
-            return takeNumber(0, high);
         }
 
         private boolean takeWord(String wanted) {
@@ -1208,7 +1207,7 @@ public final class ArgumentMender {
             return true;
         }
 
-        void takeOver(Acts other) {
+        void copyFrom(Acts other) {
             size = other.size;
             System.arraycopy(other.kind, 0, kind, 0, MOST_ACTS);
             System.arraycopy(other.at, 0, at, 0, MOST_ACTS);
@@ -1278,7 +1277,7 @@ public final class ArgumentMender {
             System.arraycopy(other.when, 0, when, 0, MOST_QUARRELS);
             System.arraycopy(other.sorted, 0, sorted, 0, MOST_THREADS);
             System.arraycopy(other.begins, 0, begins, 0, MOST_CLAIMS + 1);
-            acts.takeOver(other.acts);
+            acts.copyFrom(other.acts);
         }
 
         boolean isThere() {
@@ -1708,7 +1707,7 @@ public final class ArgumentMender {
             return won - TEAR_COSTS * Integer.bitCount(years.ripped[quarrel]);
         }
 
-        Tug drag(Cloth cloth, int[] strength, int claim, int n) {
+        Tug tryPull(Cloth cloth, int[] strength, int claim, int n) {
             System.arraycopy(strength, 0, row, 0, MOST_THREADS);
             tug.drag(cloth, cloth.law, row, claim, n);
             return tug;
@@ -1717,7 +1716,7 @@ public final class ArgumentMender {
         /** The least pull, up to a most one, that tears a thread or goes through. */
         int leastHarm(Cloth cloth, int[] strength, int claim, int most) {
             for (int n = 1; n <= most; n++) {
-                drag(cloth, strength, claim, n);
+                tryPull(cloth, strength, claim, n);
                 if (tug.ripped != 0 || tug.lost > 0) {
                     return n;
                 }
