@@ -122,6 +122,13 @@ final class Bench {
     return x;
   }
 
+  /** Two years of one claim that hangs from the hem by threads that hold so much. */
+  static String law(int law, int... holds) {
+    StringBuilder text = new StringBuilder("cloth years 2 law " + law + " odds 0;claim;");
+    for (int h : holds) text.append("thread 0 to hem holds ").append(h).append(';');
+    return text.toString();
+  }
+
   /** The tape is just this text. */
   Bench tell(String text) {
     ask("end(0)");

@@ -31,27 +31,21 @@ public final class PullEdgesTest {
     Bench.finish("PullEdgesTest", 34, 47);
   }
 
-  private static String law(int law, int... holds) {
-    StringBuilder text = new StringBuilder("cloth years 2 law " + law + " odds 0;claim;");
-    for (int h : holds) text.append("thread 0 to hem holds ").append(h).append(';');
-    return text.toString();
-  }
-
   // ---- terms V and VI
 
   private static void gates() {
     Bench.says("V", "GATE: the least pull (1 .. 200) by a QUARREL at a CLAIM");
     // 199 are shared 50, 50, 50, 49; 200 tear the last one
-    Bench.of(law(0, 50, 50, 50, 49)).due("gate(0, 0)", 200).due("tries(0, 199, 0)", 0);
-    Bench.of(law(0, 50, 50, 50, 50)).due("gate(0, 0)", -1).due("tries(0, 200, 0)", 0);
-    Bench.of(law(0, 1)).due("gate(0, 0)", 2);
-    Bench.of(law(1, 60, 60)).due("gate(0, 0)", 61);
+    Bench.of(Bench.law(0, 50, 50, 50, 49)).due("gate(0, 0)", 200).due("tries(0, 199, 0)", 0);
+    Bench.of(Bench.law(0, 50, 50, 50, 50)).due("gate(0, 0)", -1).due("tries(0, 200, 0)", 0);
+    Bench.of(Bench.law(0, 1)).due("gate(0, 0)", 2);
+    Bench.of(Bench.law(1, 60, 60)).due("gate(0, 0)", 61);
     Bench.says("V", "as the cloth is in a YEAR (ahead of words of it; nothing stays of it)");
     Bench x = Bench.of(ONE);
     x.due("sews(0, 20, 0)", 1).due("gate(0, 0)", 11).due("gate(0, 1)", 29).due("gate(0, 2)", 29);
     x.due("strength(0, 0)", 10).due("strength(0, 1)", 28).due("hung(2)", 1).due("bears(0)", 11).due("pulls(0)", 1);
     Bench.says("V", "by which a THREAD is TORN (worn out, too; in any of its pulls), or it goes THROUGH (a HOLE: 1)");
-    Bench.of(law(0, 60, 1)).due("gate(0, 0)", 4).due("lets(0, 4, 0)", 0).due("would(0, 4, 0, 0)", 4);
+    Bench.of(Bench.law(0, 60, 1)).due("gate(0, 0)", 4).due("lets(0, 4, 0)", 0).due("would(0, 4, 0, 0)", 4);
     // a hole, and one that leads to a hole; nothing is torn
     Bench y = Bench.of("cloth years 1 law 0 odds 0;claim;claim;thread 1 to 0 holds 9;");
     y.due("gate(0, 0)", 1).due("gate(1, 0)", 1).due("tries(1, 1, 0)", 0).due("lets(1, 1, 0)", 1);
@@ -65,8 +59,8 @@ public final class PullEdgesTest {
         + "0: it need not)");
     Bench x = Bench.of("cloth years 1 law 0 odds 0;claim;thread 0 to hem holds 30;quarrel 0 by 90 at 0;");
     x.due("word(0, 0)", 60).due("rate(0, 29)", 30).due("word(0, 0)", -1).due("rate(0, 60)", 29).due("word(0, 0)", 30);
-    Bench.of(law(0, 60) + "quarrel 0 by 60 at 0;").due("word(0, 0)", 0);
-    Bench.of(law(0, 59) + "quarrel 0 by 60 at 0;").due("word(0, 0)", 1);
+    Bench.of(Bench.law(0, 60) + "quarrel 0 by 60 at 0;").due("word(0, 0)", 0);
+    Bench.of(Bench.law(0, 59) + "quarrel 0 by 60 at 0;").due("word(0, 0)", 1);
     // 60 and 60 are 120, less 18 102; less 18 84: holds 84 at last
     Bench y = Bench.of("cloth years 3 law 0 odds 0;claim;thread 0 to hem holds 60;quarrel 0 by 90 at 0;"
         + "quarrel 0 by 90 at 1;quarrel 0 by 84 at 2;");
@@ -94,7 +88,7 @@ public final class PullEdgesTest {
         + "thread 3 to 0 holds 9;thread 0 to hem holds 9;thread 2 to hem holds 9;thread 3 to hem holds 9;")
         .due("cut(3, 0)", 4).due("cut(2, 0)", 3).due("cut(1, 0)", 1).due("cut(0, 0)", 2);
     // torn ones are not cut: a word let in later does not count
-    Bench z = Bench.of(law(0, 9, 1) + "quarrel 0 by 4 at 0;");
+    Bench z = Bench.of(Bench.law(0, 9, 1) + "quarrel 0 by 4 at 0;");
     z.due("cut(0, 0)", 2).due("cut(0, 1)", 1).due("cut(0, 2)", 1).due("sews(1, 1, 1)", 1).due("cut(0, 1)", 1);
     z.due("cut(0, 2)", 2);
   }
@@ -108,7 +102,7 @@ public final class PullEdgesTest {
     x.due("tries(0, 200, 1)", 0).due("tries(0, 200, 2)", 0);
     Bench.of("cloth years 1 law 1 odds 0;claim;" + "thread 0 to hem holds 60;".repeat(16)).due("tries(0, 60, 0)", 0)
         .due("tries(0, 61, 0)", 16).due("tries(0, 200, 1)", 16);
-    Bench.of(law(0, 4, 5)).due("tries(0, 10, 0)", 2);
+    Bench.of(Bench.law(0, 4, 5)).due("tries(0, 10, 0)", 2);
     Bench.says(34, "-2: there are none such.");
     x.refused("tries(0, 0, 0)", -2).refused("tries(0, 201, 0)", -2).refused("tries(0, -1, 0)", -2);
     x.refused("tries(0, MIN, 0)", -2).refused("tries(0, MAX, 0)", -2);
@@ -122,7 +116,7 @@ public final class PullEdgesTest {
     Bench x = Bench.of(ONE);
     x.due("would(0, 1, 0, 0)", 1).due("would(0, 10, 0, 0)", 10).due("would(0, 11, 0, 0)", 0);
     x.due("would(0, 1, 1, 0)", 0).due("would(0, 1, 2, 0)", 0);
-    Bench.of(law(0, 4, 60)).due("would(0, 10, 0, 0)", 0).due("would(0, 10, 0, 1)", 10).due("would(0, 9, 0, 0)", 0);
+    Bench.of(Bench.law(0, 4, 60)).due("would(0, 10, 0, 0)", 0).due("would(0, 10, 0, 1)", 10).due("would(0, 9, 0, 0)", 0);
     Bench.of("cloth years 1 law 0 odds 0;claim;" + "thread 0 to hem holds 60;".repeat(16))
         .due("would(0, 200, 0, 0)", 13).due("would(0, 200, 0, 7)", 13).due("would(0, 200, 0, 8)", 12)
         .due("would(0, 200, 1, 15)", 12);
@@ -157,7 +151,7 @@ public final class PullEdgesTest {
     x.due("gate(0, 0)", 11).due("gate(0, 1)", 1).due("gate(0, 2)", 1);
     Bench.of(HARM).due("gate(0, 0)", 6).due("gate(1, 0)", 6).due("gate(0, 1)", 1).due("gate(1, 1)", 11);
     Bench.says(37, "NONE: by none; -2 likewise.");
-    Bench.of(law(0, 50, 50, 50, 50)).due("gate(0, 0)", -1).due("gate(0, 2)", -1);
+    Bench.of(Bench.law(0, 50, 50, 50, 50)).due("gate(0, 0)", -1).due("gate(0, 2)", -1);
     x.beyond("gate(%, 0)", -2, 1).beyond("gate(0, %)", -2, 3).unmoved();
     Bench.of(BARE).due("gate(0, 0)", -2);
     new Bench().due("gate(0, 0)", -2);
@@ -185,16 +179,16 @@ public final class PullEdgesTest {
     Bench.says(39, "The least pull (1 .. 200) by which a QUARREL at a CLAIM goes THROUGH, as the cloth is in a YEAR.");
     Bench x = Bench.of(ONE);
     x.due("bursts(0, 0)", 11).due("bursts(0, 1)", 1).due("bursts(0, 2)", 1);
-    Bench.of(law(0, 60, 1)).due("bursts(0, 0)", 61);
-    Bench.of(law(0, 50, 50, 50, 49)).due("bursts(0, 0)", 200);
+    Bench.of(Bench.law(0, 60, 1)).due("bursts(0, 0)", 61);
+    Bench.of(Bench.law(0, 50, 50, 50, 49)).due("bursts(0, 0)", 200);
     Bench.of("cloth years 1 law 0 odds 0;claim;claim;thread 1 to 0 holds 9;").due("bursts(0, 0)", 1).due("bursts(1, 0)", 1);
     // torn by 7 and so not lost; by 51 all is
     Bench.of("cloth years 1 law 1 odds 0;claim;claim;claim;thread 2 to hem holds 6;thread 1 to hem holds 50;"
         + "thread 2 to 1 holds 5;").due("bursts(2, 0)", 7).due("bursts(1, 0)", 51);
     Bench.says(39, "NONE: by none; -2: there are none such.");
-    Bench.of(law(0, 50, 50, 50, 50)).due("bursts(0, 0)", -1);
+    Bench.of(Bench.law(0, 50, 50, 50, 50)).due("bursts(0, 0)", -1);
     // a thread tears, but it never goes through
-    Bench.of(law(0, 1, 50, 50, 50, 50)).due("gate(0, 0)", 6).due("bursts(0, 0)", -1);
+    Bench.of(Bench.law(0, 1, 50, 50, 50, 50)).due("gate(0, 0)", 6).due("bursts(0, 0)", -1);
     x.beyond("bursts(%, 0)", -2, 1).beyond("bursts(0, %)", -2, 3).unmoved();
     Bench.of(BARE).due("bursts(0, 0)", -2);
     new Bench().due("bursts(0, 0)", -2);
@@ -218,7 +212,7 @@ public final class PullEdgesTest {
     next.due("word(0, 0)", 60).due("word(1, 0)", -1).due("mend(0)", 60).due("mend(1)", -1);
     Bench.says(40, "NONE: by none; -2: there are none such.");
     x.due("word(1, 0)", -1);
-    Bench.of(law(0, 9) + "claim;").due("word(0, 1)", -1).due("word(0, 0)", 0);
+    Bench.of(Bench.law(0, 9) + "claim;").due("word(0, 1)", -1).due("word(0, 0)", 0);
     x.beyond("word(%, 0)", -2, 3).beyond("word(0, %)", -2, 2).unmoved();
     Bench.of("cloth years 1 law 0 odds 0;claim;").due("word(0, 0)", -2);
     new Bench().due("word(0, 0)", -2);
@@ -229,9 +223,9 @@ public final class PullEdgesTest {
     Bench x = Bench.of(HARM);
     x.due("darn(0)", 2).due("darn(1)", 0);
     // the other one tears by a half, and the one has all: both threads by 7, then by 9 and 8
-    Bench same = Bench.of(law(0, 5, 5) + "quarrel 0 by 12 at 0;");
+    Bench same = Bench.of(Bench.law(0, 5, 5) + "quarrel 0 by 12 at 0;");
     same.due("word(0, 0)", 7).due("word(1, 0)", 7).due("darn(0)", 0);
-    Bench less = Bench.of(law(0, 5, 6) + "quarrel 0 by 14 at 0;");
+    Bench less = Bench.of(Bench.law(0, 5, 6) + "quarrel 0 by 14 at 0;");
     less.due("word(0, 0)", 9).due("word(1, 0)", 8).due("darn(0)", 1);
     Bench sixty = Bench.of("cloth years 1 law 0 odds 0;claim;thread 0 to hem holds 30;quarrel 0 by 90 at 0;");
     sixty.due("darn(0)", 0).due("rate(0, 29)", 30);
@@ -241,7 +235,7 @@ public final class PullEdgesTest {
     need.due("darn(0)", 0).due("word(0, 0)", 0).due("rate(0, 10)", 9).due("hung(1)", 2).due("darn(0)", 1);
     Bench.says(41, "NONE: none has one; -2: there is none such.");
     sixty.due("darn(0)", -1);
-    Bench.of(law(0, 9) + "claim;").due("darn(1)", -1).due("darn(0)", 0);
+    Bench.of(Bench.law(0, 9) + "claim;").due("darn(1)", -1).due("darn(0)", 0);
     Bench.of("cloth years 1 law 0 odds 0;claim;").due("darn(0)", -1);
     x.beyond("darn(%)", -2, 2).unmoved();
     Bench.of(BARE).due("darn(0)", -2);
@@ -252,7 +246,7 @@ public final class PullEdgesTest {
     Bench.says(42, "WORD of a THREAD by which all CLAIMS are HUNG in the last YEAR.");
     Bench x = Bench.of(HARM);
     x.due("mend(0)", 3).due("mend(2)", 1);
-    Bench.of(law(0, 9)).due("mend(0)", 0);
+    Bench.of(Bench.law(0, 9)).due("mend(0)", 0);
     Bench sixty = Bench.of("cloth years 1 law 0 odds 0;claim;thread 0 to hem holds 30;quarrel 0 by 90 at 0;");
     sixty.due("mend(0)", 60).due("rate(0, 29)", 30);
     Bench.says(42, "NONE: by none; -2: there is none such.");
@@ -290,8 +284,8 @@ public final class PullEdgesTest {
     // not hung: none, whatever is torn
     x.due("keys(2, 2)", 0).due("keys(1, 2)", 0);
     Bench.of("cloth years 1 law 0 odds 0;claim;").due("keys(0, 0)", 0);
-    Bench.of(law(0, 9)).due("keys(0, 0)", 1);
-    Bench.of(law(0, 9, 9)).due("keys(0, 0)", 0);
+    Bench.of(Bench.law(0, 9)).due("keys(0, 0)", 1);
+    Bench.of(Bench.law(0, 9, 9)).due("keys(0, 0)", 0);
     StringBuilder last = new StringBuilder("cloth years 1 law 0 odds 0;claim;claim;");
     last.append("thread 0 to hem holds 9;".repeat(15)).append("thread 1 to hem holds 9;");
     Bench.of(last.toString()).due("keys(1, 0)", 32768).due("keys(0, 0)", 0);
@@ -316,10 +310,10 @@ public final class PullEdgesTest {
     // each of two tears it: without one the other does
     Bench.of("cloth years 1 law 0 odds 0;claim;thread 0 to hem holds 9;quarrel 0 by 10 at 0;quarrel 0 by 10 at 0;")
         .due("blame()", -1);
-    Bench.of(law(0, 9) + "quarrel 0 by 9 at 0;quarrel 0 by 90 at 2;").due("blame()", -1);
+    Bench.of(Bench.law(0, 9) + "quarrel 0 by 9 at 0;quarrel 0 by 90 at 2;").due("blame()", -1);
     // torn by a quarrel of an act, which was not told
-    Bench.of(law(0, 9) + "quarrel 0 by 4 at 0;").due("quarrels(0, 10, 1)", 0).due("blame()", -1);
-    Bench.of(law(0, 9)).due("blame()", -1);
+    Bench.of(Bench.law(0, 9) + "quarrel 0 by 4 at 0;").due("quarrels(0, 10, 1)", 0).due("blame()", -1);
+    Bench.of(Bench.law(0, 9)).due("blame()", -1);
     Bench.of(BARE).due("blame()", -1);
     new Bench().due("blame()", -2);
   }
@@ -332,12 +326,12 @@ public final class PullEdgesTest {
     Bench.of(two + "claim;thread 2 to 1 holds 9;").due("dear()", 1);
     Bench.of(HARM).due("dear()", 2);
     // a word let in to it does nothing
-    Bench.of(law(0, 9)).due("sews(0, 5, 1)", 1).due("dear()", 0);
+    Bench.of(Bench.law(0, 9)).due("sews(0, 5, 1)", 1).due("dear()", 0);
     StringBuilder last = new StringBuilder("cloth years 1 law 0 odds 0;claim;claim;");
     last.append("thread 0 to hem holds 9;".repeat(15)).append("thread 1 to hem holds 9;");
     Bench.of(last.toString()).due("dear()", 15);
     Bench.says(46, "NONE: none; -2 likewise.");
-    Bench.of(law(0, 9, 9)).due("dear()", -1);
+    Bench.of(Bench.law(0, 9, 9)).due("dear()", -1);
     Bench.of(ONE).due("dear()", -1);
     Bench.of("cloth years 1 law 0 odds 0;claim;").due("dear()", -1);
     Bench.of(BARE).due("dear()", -1);
@@ -355,7 +349,7 @@ public final class PullEdgesTest {
     Bench.of("cloth years 1 law 1 odds 5;claim;claim;" + "thread 1 to hem holds 9;".repeat(14)
         + "thread 0 to hem holds 5;thread 1 to 0 holds 10;quarrel 1 by 8 at 0;").due("worse()", 15);
     Bench.says(47, "NONE, -2 likewise.");
-    Bench.of(law(0, 9, 9)).due("worse()", -1);
+    Bench.of(Bench.law(0, 9, 9)).due("worse()", -1);
     Bench.of(ONE).due("worse()", -1);
     Bench.of(BARE).due("worse()", -1);
     new Bench().due("worse()", -2);

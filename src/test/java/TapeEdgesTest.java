@@ -60,6 +60,8 @@ public final class TapeEdgesTest {
     faulty(HEAD + "|;", 1);
     faulty(HEAD + "claim;|;", 1);
     faulty(HEAD + "claim |claim;", 1);
+    Bench.says("I", "LINE: cloth years N law N odds N | claim | thread C to END holds N | quarrel C by N at N. "
+        + "END: hem | C.");
     everyPlace("", "cloth years 1 law 1 odds 1 ;");
     everyPlace(HEAD, "claim ;");
     everyPlace(HEAD + "claim;claim;", "thread 1 to hem holds 1 ;");
@@ -284,6 +286,14 @@ public final class TapeEdgesTest {
   }
 
   private static void askedFirst() {
+    Bench.says("I", "SLOTS 0 .. 3 have rows of numbers of 1, 2, 4 or 8 bytes (WIDTH 0 .. 3), at most 60, or nothing.");
+    Bench rows = new Bench();
+    for (int slot = 0; slot < 4; slot++) {
+      rows.due("write(" + slot + ", 0, 0)", -6).due("row(" + slot + ", " + slot + ", 60)", 0).due("count(9)", slot + 1);
+      rows.due("write(" + slot + ", 59, 0)", 0).refused("write(" + slot + ", 60, 0)", -7);
+    }
+    rows.refused("row(0, 0, 61)", -2).beyond("row(%, 0, 1)", -2, 4).beyond("row(0, %, 1)", -2, 4);
+    rows.beyond("write(%, 0, 0)", -2, 4).unmoved();
     Bench.says("I", "-2 (-1,000) is asked ahead of -5, -6.");
     Bench x = Bench.of(ONE);
     for (int i = 0; i < 30; i++) x.ask("sews(0, 60, 0)");
